@@ -286,15 +286,16 @@ public final class FortressWatch {
 
     public int read() {
         int fault = text.findFault();
-        int answer = -100 - fault;
-        if (fault == NONE) {
-            before.copyFrom(wall);
-            answer = kept(carryOutAll());
-            commandNow = NOTHING;
-            if (answer < 0) {
-                wall.copyFrom(before);
-            }
+        if (fault != NONE) {
+            text.clear();
+            return -100 - fault;
         }
+        before.copyFrom(wall);
+        int answer = kept(carryOutAll());
+        if (answer < 0) {
+            wall.copyFrom(before);
+        }
+        commandNow = NOTHING;
         text.clear();
         return answer;
     }
@@ -546,7 +547,7 @@ public final class FortressWatch {
         if (kind == 0) {
             return sights.manySeen(post);
         }
-        return kind == 1 ? -wall.stone[post] : sights.manySeenAlone(post);
+        return kind == 1 ? -wall.numberOf(post, 0) : sights.manySeenAlone(post);
     }
 
     private int sightAccount(int what) {
@@ -603,7 +604,7 @@ public final class FortressWatch {
         return (int) ((straight | straight >>> STONES) & ALL_STONES);
     }
 
-    /** The bits of a float that is 0 or from 2 to the -126 on, as Float.floatToIntBits may not be called. */
+    /** The bits of a float that is 0 or a normal number above it: the library's own function is not to be called. */
     private static int bitsOf(float value) {
         if (!(value > 0f)) {
             return 0;
@@ -878,8 +879,9 @@ public final class FortressWatch {
             ways = 0;
             inEach = 0;
             int fewest = MOST_POSTS + 1;
-            int sets = fillSets(sights);
-            for (int set = 0; set < sets; set++) {
+            int sets = 1 << sights.posts;
+            fillSets(sights);
+            for (int set = 0; set < sets && set < seenBySet.length; set++) {
                 int size = Integer.bitCount(set);
                 if (seenBySet[set] != ALL_STONES || size > fewest) {
                     continue;
@@ -895,18 +897,16 @@ public final class FortressWatch {
             }
         }
 
-        /** Each post doubles the sets; answers how many there are. */
-        private int fillSets(Sights sights) {
+        /** Each post doubles the sets: those without it, and the same with it. */
+        private void fillSets(Sights sights) {
             seenBySet[0] = 0;
-            int sets = 1;
             for (int post = 0; post < MOST_POSTS && post < sights.posts; post++) {
-                sets = 1 << post;
-                for (int set = 0; set < sets; set++) {
-                    seenBySet[sets + set] = seenBySet[set] | sights.of(post);
+                int more = sights.of(post);
+                int without = 1 << post;
+                for (int set = 0; set < without; set++) {
+                    seenBySet[without + set] = seenBySet[set] | more;
                 }
-                sets = sets + sets;
             }
-            return sets;
         }
 
         int searchStones(Sights sights) {
