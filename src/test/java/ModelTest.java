@@ -1,3 +1,4 @@
+import java.lang.reflect.Method;
 import java.util.ArrayList;
 import java.util.List;
 import java.util.Random;
@@ -12,6 +13,9 @@ public final class ModelTest {
         "postOf", "sees", "watched", "seenBy", "gapOf", "fewest", "fewestAgain", "watches", "isFull", "spare",
         "next", "greedy", "wouldNeed", "wouldTurn", "ranked", "describe", "show", "sign", "append", "read",
         "refusal", "account", "isWell", "mean", "undo", "save", "restore"};
+
+    private static final Method[] REAL = methodsOf(FortressWatch.class);
+    private static final Method[] MODEL = methodsOf(PlainModel.class);
 
     private static Random random;
     private static FortressWatch real;
@@ -140,95 +144,42 @@ public final class ModelTest {
             return;
         }
         calls++;
-        int got = ofReal(id, a, b, c);
-        int want = ofModel(id, a, b, c);
-        story.add(CALL[id] + "(" + a + ", " + b + ", " + c + ") " + got);
-        if (got != want) {
-            wrong++;
-            story.forEach(System.out::println);
-            System.out.println("the last call answered " + got + ", the model " + want);
+        String call = CALL[id] + "(" + a + ", " + b + ", " + c + ")";
+        try {
+            int got = answer(real, REAL[id], a, b, c);
+            int want = answer(model, MODEL[id], a, b, c);
+            story.add(call + " " + got);
+            if (got != want) {
+                fail("the last call answered " + got + ", the model " + want);
+            }
+        } catch (ReflectiveOperationException e) {
+            fail(call + " threw " + e.getCause());
         }
     }
 
-    private static int ofReal(int id, int a, int b, int c) {
-        FortressWatch x = real;
-        switch (id) {
-            case 0: return x.post(a, b, c);
-            case 1: return x.tear(a);
-            case 2: return x.reach(a, b, c);
-            case 3: return x.blind(a, b, c);
-            case 4: return x.see(a);
-            case 5: return x.man(a, b);
-            case 6: return x.hour(a);
-            case 7: return x.watch();
-            case 8: return x.postOf(a, b);
-            case 9: return x.sees(a, b);
-            case 10: return x.watched(a);
-            case 11: return x.seenBy(a);
-            case 12: return x.gapOf(a, b);
-            case 13: return x.fewest();
-            case 14: return x.fewestAgain();
-            case 15: return x.watches();
-            case 16: return x.isFull(a);
-            case 17: return x.spare();
-            case 18: return x.next();
-            case 19: return x.greedy();
-            case 20: return x.wouldNeed(a);
-            case 21: return x.wouldTurn(a);
-            case 22: return x.ranked(a, b);
-            case 23: return x.describe(a);
-            case 24: return x.show();
-            case 25: return x.sign(a);
-            case 26: return x.append(a);
-            case 27: return x.read();
-            case 28: return x.refusal(a);
-            case 29: return x.account(a);
-            case 30: return x.isWell();
-            case 31: return x.mean();
-            case 32: return x.undo();
-            case 33: return x.save();
-            default: return x.restore();
-        }
+    private static void fail(String why) {
+        wrong++;
+        story.forEach(System.out::println);
+        System.out.println(why);
     }
 
-    private static int ofModel(int id, int a, int b, int c) {
-        PlainModel x = model;
-        switch (id) {
-            case 0: return x.post(a, b, c);
-            case 1: return x.tear(a);
-            case 2: return x.reach(a, b, c);
-            case 3: return x.blind(a, b, c);
-            case 4: return x.see(a);
-            case 5: return x.man(a, b);
-            case 6: return x.hour(a);
-            case 7: return x.watch();
-            case 8: return x.postOf(a, b);
-            case 9: return x.sees(a, b);
-            case 10: return x.watched(a);
-            case 11: return x.seenBy(a);
-            case 12: return x.gapOf(a, b);
-            case 13: return x.fewest();
-            case 14: return x.fewestAgain();
-            case 15: return x.watches();
-            case 16: return x.isFull(a);
-            case 17: return x.spare();
-            case 18: return x.next();
-            case 19: return x.greedy();
-            case 20: return x.wouldNeed(a);
-            case 21: return x.wouldTurn(a);
-            case 22: return x.ranked(a, b);
-            case 23: return x.describe(a);
-            case 24: return x.show();
-            case 25: return x.sign(a);
-            case 26: return x.append(a);
-            case 27: return x.read();
-            case 28: return x.refusal(a);
-            case 29: return x.account(a);
-            case 30: return x.isWell();
-            case 31: return x.mean();
-            case 32: return x.undo();
-            case 33: return x.save();
-            default: return x.restore();
+    private static int answer(Object object, Method method, int... words) throws ReflectiveOperationException {
+        Object[] taken = new Object[method.getParameterCount()];
+        for (int n = 0; n < taken.length; n++) {
+            taken[n] = words[n];
         }
+        return (Integer) method.invoke(object, taken);
+    }
+
+    /** The methods of a class in the order of CALL. */
+    private static Method[] methodsOf(Class<?> type) {
+        Method[] methods = new Method[CALL.length];
+        for (Method method : type.getDeclaredMethods()) {
+            int id = List.of(CALL).indexOf(method.getName());
+            if (id >= 0) {
+                methods[id] = method;
+            }
+        }
+        return methods;
     }
 }
