@@ -128,13 +128,13 @@ public final class AccountsTest {
         FortressWatch x = Due.wall("p0<11>11;p12<1>1;b1!13+1;m1");
         String[] walls = new String[9];
         for (int n = 0; n < walls.length; n++) {
-            walls[n] = told(x);
+            walls[n] = Edges.wall(x);
             Due.due("the change " + n, change(x, n) >= 0 ? 1 : 0, 1);
             Due.due("the changes", x.account(12), Math.min(8, 5 + n));
         }
         for (int n = walls.length - 1; n > 0; n--) {
             Due.due("undo() of the change " + n, x.undo(), n - 1);
-            Due.due("the wall before the change " + n, told(x), walls[n]);
+            Due.due("the wall before the change " + n, Edges.wall(x), walls[n]);
         }
         Due.due("undo()", x.undo(), NOTHING);
     }
@@ -151,18 +151,6 @@ public final class AccountsTest {
             case 7: return x.post(0, 11, 11);
             default: return x.watch();
         }
-    }
-
-    /** The whole wall, but for what can be undone. */
-    private static String told(FortressWatch x) {
-        StringBuilder told = new StringBuilder();
-        for (int post = 0; post < x.account(0); post++) {
-            told.append(Due.described(x, post)).append(' ');
-        }
-        for (int what = 7; what <= 10; what++) {
-            told.append(x.account(what)).append(' ');
-        }
-        return told.toString();
     }
 
     private static void promise34AtMostEight() {

@@ -2,15 +2,33 @@
 final class Due {
     private static int asked = 0;
     private static int wrong = 0;
+    private static int sentences = 0;
+    private static int askedBefore = 0;
+    private static String sentence = "";
 
     private Due() {
+    }
+
+    /** What is asked from here on would break this sentence of the document, up to the next one. */
+    static void sentence(int promise, String words) {
+        closeSentence();
+        sentences++;
+        sentence = "promise " + promise + ", \"" + words + "\": ";
+        askedBefore = asked;
+    }
+
+    private static void closeSentence() {
+        if (!sentence.isEmpty() && asked == askedBefore) {
+            wrong++;
+            System.out.println(sentence + "nothing was asked");
+        }
     }
 
     static void due(String what, int got, int want) {
         asked++;
         if (got != want) {
             wrong++;
-            System.out.println(what + " answered " + got + ", due is " + want);
+            System.out.println(sentence + what + " answered " + got + ", due is " + want);
         }
     }
 
@@ -18,7 +36,7 @@ final class Due {
         asked++;
         if (!got.equals(want)) {
             wrong++;
-            System.out.println(what + " is \"" + got + "\", due is \"" + want + "\"");
+            System.out.println(sentence + what + " is \"" + got + "\", due is \"" + want + "\"");
         }
     }
 
@@ -50,8 +68,10 @@ final class Due {
 
     static String line(FortressWatch x) {
         StringBuilder line = new StringBuilder();
-        for (int n = 0; x.sign(n) != FortressWatch.NONE; n++) {
-            line.append((char) x.sign(n));
+        int code = x.sign(0);
+        while (code != FortressWatch.NONE) {
+            line.append((char) code);
+            code = x.sign(line.length());
         }
         return line.toString();
     }
@@ -69,7 +89,9 @@ final class Due {
     }
 
     static void end() {
-        System.out.println(asked + " answers, " + wrong + " not as due");
+        closeSentence();
+        System.out.println((sentences == 0 ? "" : sentences + " sentences, ") + asked + " answers, " + wrong
+            + " not as due");
         if (wrong != 0 || asked == 0) {
             System.exit(1);
         }
