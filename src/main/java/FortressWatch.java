@@ -903,7 +903,7 @@ public final class FortressWatch {
             for (int post = 0; post < MOST_POSTS && post < sights.posts; post++) {
                 int more = sights.of(post);
                 int without = 1 << post;
-                for (int set = 0; set < without; set++) {
+                for (int set = 0; set < without && without + set < seenBySet.length; set++) {
                     seenBySet[without + set] = seenBySet[set] | more;
                 }
             }

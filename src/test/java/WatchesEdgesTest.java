@@ -14,6 +14,7 @@ public final class WatchesEdgesTest {
         promise15Nothing();
         promise15AtTheHour();
         promise15MannedOrNot();
+        promise15TornPosts();
         promise16Fewest();
         promise16Lowest();
         promise16Nothing();
@@ -131,6 +132,27 @@ public final class WatchesEdgesTest {
         Due.due("fewestAgain()", x.fewestAgain(), 5);
         Due.due("watches()", x.watches(), 2);
         Due.due("who is manned stays", Edges.manned(x), 10);
+    }
+
+    private static void promise15TornPosts() {
+        Due.sentence(15, "A watch is a set of posts: of those that there are");
+        FortressWatch x = Due.wall(THIRDS + ";p4<11>11;p17<0>0");
+        Due.due("two of five", x.fewest(), 12);
+        x.tear(3);
+        Due.due("without one of the two: three of four", x.fewest(), 7);
+        Due.due("by the second way", x.fewestAgain(), 7);
+        Due.due("how many there are", x.watches(), 1);
+        Due.due("how many posts it would have", x.wouldNeed(0), 3);
+        Due.due("the first is needed", x.postOf(0, 8), 1);
+        Due.due("whether all is well", x.isWell(), 1);
+        x.undo();
+        Due.due("with it again", x.fewest(), 12);
+        x.tear(0);
+        Due.due("the two with their numbers then", x.fewest(), 6);
+        x.tear(1);
+        Due.due("without the other one of the two", x.fewest(), NOTHING);
+        Due.due("by the second way", x.fewestAgain(), NOTHING);
+        Due.due("how many there are", x.watches(), 0);
     }
 
     private static void promise16Fewest() {
