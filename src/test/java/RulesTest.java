@@ -8,6 +8,8 @@ import java.nio.file.Path;
 import java.util.List;
 import java.util.Set;
 import java.util.TreeSet;
+import java.util.regex.Matcher;
+import java.util.regex.Pattern;
 
 /** The public face, and what of ../shared/LANGUAGE.md can be seen by looking at the class and its file. */
 public final class RulesTest {
@@ -20,6 +22,9 @@ public final class RulesTest {
     private static final String[] NOT_WRITTEN = {"->", "::", "import ", "package ", "try ", "catch", "throw",
         "finally", "synchronized", "assert ", "static {", "Exact", "Float.", "Double.", "System.", "String",
         "toString", "hashCode", "equals", "native ", "volatile ", "transient ", "protected ", "while (true"};
+    // Of the library the class calls functions over int alone.
+    private static final Pattern LIBRARY = Pattern.compile("\\b(Math|Integer|Long|Arrays|List)\\.\\w+");
+    private static final Set<String> ALLOWED = Set.of("Math.max", "Math.min", "Integer.bitCount");
 
     public static void main(String[] args) throws IOException {
         if (args.length != 1) {
@@ -52,11 +57,16 @@ public final class RulesTest {
         Due.due("public constructors without words", FortressWatch.class.getConstructors()[0].getParameterCount(), 0);
     }
 
-    private static void members() {
+    private static Set<String> publicNames() {
         Set<String> names = new TreeSet<>();
         for (String call : FACE) {
             names.add(call.split(" ")[0]);
         }
+        return names;
+    }
+
+    private static void members() {
+        Set<String> names = publicNames();
         for (Method method : FortressWatch.class.getDeclaredMethods()) {
             if (!Modifier.isPublic(method.getModifiers())) {
                 Due.due(method.getName() + " is private", method.getModifiers() & Modifier.PRIVATE, Modifier.PRIVATE);
@@ -92,6 +102,8 @@ public final class RulesTest {
             Due.due(type.getName() + " is open", modifiers & (Modifier.PUBLIC | Modifier.PROTECTED), 0);
             for (Method method : type.getDeclaredMethods()) {
                 Due.due(method.getName() + " takes at most seven", Math.max(7, method.getParameterCount()), 7);
+                boolean borne = publicNames().contains(method.getName());
+                Due.due(type.getName() + " bears the public name " + method.getName(), borne ? 1 : 0, 0);
             }
         }
     }
@@ -99,6 +111,10 @@ public final class RulesTest {
     private static void source(String source) {
         for (String word : NOT_WRITTEN) {
             Due.due("the place of " + word, source.indexOf(word), -1);
+        }
+        Matcher call = LIBRARY.matcher(source);
+        while (call.find()) {
+            Due.due("the library's " + call.group(), ALLOWED.contains(call.group()) ? 1 : 0, 1);
         }
         String[] lines = source.split("\n");
         int start = 0;
